@@ -275,7 +275,17 @@ public final class ModelDesk {
                 return takeSign(c);
             }
             // Behind the model's last bracket nothing but its sign can stand, blanks neither.
-            return depth > 0 ? takeBehindPart(c) : WRONG;
+            if (depth == 0) {
+                return WRONG;
+            }
+            if (c == ' ') {
+                state = BEHIND_SIGN;
+                return GOES_ON;
+            }
+            if (c == ')') {
+                return close();
+            }
+            return c == '|' || c == ',' ? takeSeparator(c) : WRONG;
         }
 
         boolean finish() {
@@ -296,18 +306,6 @@ public final class ModelDesk {
                 return open();
             }
             return c >= 'a' && c <= 'z' ? takeName(c - 'a') : WRONG;
-        }
-
-        private int takeBehindPart(int c) {
-            if (c == ' ') {
-                state = BEHIND_SIGN;
-                return GOES_ON;
-            }
-            if (c == ')') {
-                close();
-                return GOES_ON;
-            }
-            return c == '|' || c == ',' ? takeSeparator(c) : WRONG;
         }
 
         private int open() {
@@ -360,10 +358,10 @@ public final class ModelDesk {
             return GOES_ON;
         }
 
-        private void close() {
+        private int close() {
             int level = depth - 1;
             if (level < 0 || level >= MAX_DEPTH) {
-                return;
+                return WRONG;
             }
             joinPart(level);
             partFirsts = openFirsts[level];
@@ -371,6 +369,7 @@ public final class ModelDesk {
             partEmpty = openEmpty[level];
             depth = level;
             state = BEHIND_PART;
+            return GOES_ON;
         }
 
         private void joinPart(int level) {
@@ -383,17 +382,13 @@ public final class ModelDesk {
                 openLasts[level] |= partLasts;
                 openEmpty[level] = openEmpty[level] || partEmpty;
             } else {
-                joinBehind(level);
+                model.connect(openLasts[level], partFirsts);
+                if (openEmpty[level]) {
+                    openFirsts[level] |= partFirsts;
+                }
+                openLasts[level] = partEmpty ? openLasts[level] | partLasts : partLasts;
+                openEmpty[level] = openEmpty[level] && partEmpty;
             }
-        }
-
-        private void joinBehind(int level) {
-            model.connect(openLasts[level], partFirsts);
-            if (openEmpty[level]) {
-                openFirsts[level] |= partFirsts;
-            }
-            openLasts[level] = partEmpty ? openLasts[level] | partLasts : partLasts;
-            openEmpty[level] = openEmpty[level] && partEmpty;
         }
 
         private static boolean isSign(int c) {

@@ -2,8 +2,32 @@
 final class Checks {
     private static int wrong = 0;
     private static int done = 0;
+    private static String only = "";
 
     private Checks() {
+    }
+
+    /** With an argument, only the sentences that have these words in their name are tested. */
+    static void only(String[] args) {
+        only = String.join(" ", args);
+    }
+
+    /** The test of one sentence of the document; what it throws counts against the sentence too. */
+    static void sentence(String words, Runnable test) {
+        if (!words.contains(only)) {
+            return;
+        }
+        int wrongBefore = wrong;
+        int doneBefore = done;
+        try {
+            test.run();
+        } catch (RuntimeException thrown) {
+            due(words + ": " + thrown, false, true);
+        }
+        due("answers asked for " + words, done > doneBefore, true);
+        if (wrong > wrongBefore) {
+            System.out.println("BROKEN: " + words);
+        }
     }
 
     static void due(String call, long got, long want) {
@@ -48,6 +72,29 @@ final class Checks {
         return desk;
     }
 
+    /** A desk that had a model and a row, and then read a text that is none. */
+    static ModelDesk deskBehind(String model, String row, String wrongText) {
+        ModelDesk desk = deskOf(model);
+        due(row + " comes in " + model, comeAll(desk, row), true);
+        due(wrongText + " is no model", readText(desk, wrongText) < 0, true);
+        return desk;
+    }
+
+    static void dueWithoutModel(String when, ModelDesk desk) {
+        due(when + "isClear", desk.isClear(), false);
+        due(when + "competing", desk.competing(), 0);
+        due(when + "isEmpty", desk.isEmpty(), false);
+        due(when + "first", desk.first(), 0);
+        due(when + "next(0)", desk.next(0), 0);
+        due(when + "last", desk.last(), 0);
+        due(when + "name(0)", desk.name(0), -1);
+        due(when + "come(0)", desk.come(0), false);
+        due(when + "isWhole", desk.isWhole(), false);
+        due(when + "may", desk.may(), 0);
+        due(when + "again", desk.again(), 0);
+        due(when + "isWhole, again", desk.isWhole(), false);
+    }
+
     static boolean comeAll(ModelDesk desk, String row) {
         for (int i = 0; i < row.length(); i++) {
             if (!desk.come(row.charAt(i) - 'a')) {
@@ -63,5 +110,15 @@ final class Checks {
             joined.append(separator).append(part);
         }
         return joined.toString();
+    }
+
+    /** A row or choice of so many places, all of one name. */
+    static String bracketOf(int places, String separator) {
+        return "(" + repeated("a", separator, places) + ")";
+    }
+
+    /** The two parts with blanks between them, so many bytes in all. */
+    static String padded(String before, String behind, int bytes) {
+        return before + " ".repeat(bytes - before.length() - behind.length()) + behind;
     }
 }

@@ -34,26 +34,11 @@ public final class PromisesTest {
     }
 
     private static void aNewObject() {
-        dueWithoutModel("new: ", new ModelDesk());
+        Checks.dueWithoutModel("new: ", new ModelDesk());
         Checks.due("new: read", new ModelDesk().read(), -1);
         ModelDesk one = Checks.deskOf("(a)");
         Checks.due("two objects: another one's model", one.first(), 1);
         Checks.due("two objects: none of its own", new ModelDesk().first(), 0);
-    }
-
-    private static void dueWithoutModel(String when, ModelDesk desk) {
-        Checks.due(when + "isClear", desk.isClear(), false);
-        Checks.due(when + "competing", desk.competing(), 0);
-        Checks.due(when + "isEmpty", desk.isEmpty(), false);
-        Checks.due(when + "first", desk.first(), 0);
-        Checks.due(when + "next(0)", desk.next(0), 0);
-        Checks.due(when + "last", desk.last(), 0);
-        Checks.due(when + "name(0)", desk.name(0), -1);
-        Checks.due(when + "come(0)", desk.come(0), false);
-        Checks.due(when + "isWhole", desk.isWhole(), false);
-        Checks.due(when + "may", desk.may(), 0);
-        Checks.due(when + "again", desk.again(), 0);
-        Checks.due(when + "isWhole, again", desk.isWhole(), false);
     }
 
     private static void putTakesTheLowestBytes() {
@@ -113,7 +98,7 @@ public final class PromisesTest {
         ModelDesk desk = new ModelDesk();
         Checks.due("read " + text, Checks.readText(desk, text), want);
         if (want < 0) {
-            dueWithoutModel("behind " + text + ": ", desk);
+            Checks.dueWithoutModel("behind " + text + ": ", desk);
         }
     }
 
@@ -218,12 +203,12 @@ public final class PromisesTest {
         ModelDesk desk = Checks.deskOf("(a,b)*");
         Checks.due("a comes", desk.come(0), true);
         Checks.due("read of no text", desk.read(), -1);
-        dueWithoutModel("behind a read of no text: ", desk);
+        Checks.dueWithoutModel("behind a read of no text: ", desk);
         Checks.due("a wrong text", Checks.readText(desk, "(a,b"), -5);
         Checks.due("has gone", Checks.readText(desk, "(c,d)"), 2);
         Checks.due("c comes", desk.come(2), true);
         Checks.due("a text too much", Checks.readText(desk, "((((((((((((((("), -1012);
-        dueWithoutModel("behind what is too much: ", desk);
+        Checks.dueWithoutModel("behind what is too much: ", desk);
         Checks.due("a model", Checks.readText(desk, "(c,d,e)"), 3);
         Checks.due("c comes", desk.come(2), true);
         Checks.due("a smaller model", Checks.readText(desk, "(c)"), 1);
